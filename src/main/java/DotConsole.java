@@ -22,6 +22,9 @@ public final class DotConsole {
     /** How far the point stands from the right, and the number one. */
     private static final int POINT = 16;
     private static final int ONE = 65536;
+    /** What a division by 0 gives. */
+    private static final int GREATEST = 2147483647;
+    private static final int LEAST = -2147483648;
 
     /*
      * Kinds of tokens, nodes and statements. All are below 32, so that a sign can be its own
@@ -256,10 +259,10 @@ public final class DotConsole {
             if (next == length) {
                 return NO_MORE;
             }
-            if (isLetter(next)) {
+            if (isLetter(text[next])) {
                 return cutWord();
             }
-            if (isDigit(next)) {
+            if (isDigit(text[next])) {
                 return cutNumber();
             }
             char sign = text[next];
@@ -269,7 +272,7 @@ public final class DotConsole {
 
         private int cutWord() {
             int start = next;
-            while (isLetter(next)) {
+            while (next < length && isLetter(text[next])) {
                 next++;
             }
             if (next - start > WORD_WIDTH) {
@@ -295,7 +298,8 @@ public final class DotConsole {
         private int cutNumber() {
             int start = next;
             int point = endOfDigits(start);
-            boolean hasPoint = point < length && text[point] == '.' && isDigit(point + 1);
+            boolean hasPoint =
+                    point + 1 < length && text[point] == '.' && isDigit(text[point + 1]);
             next = hasPoint ? endOfDigits(point + 1) : point;
             int behind = hasPoint ? next - point - 1 : 0;
             // The digits are counted before they are read: too many of them would wrap.
@@ -310,7 +314,7 @@ public final class DotConsole {
 
         private int endOfDigits(int from) {
             int end = from;
-            while (end < length && isDigit(end)) {
+            while (end < length && isDigit(text[end])) {
                 end++;
             }
             return end;
@@ -324,12 +328,12 @@ public final class DotConsole {
             return all;
         }
 
-        private boolean isDigit(int i) {
-            return i < length && text[i] >= '0' && text[i] <= '9';
+        private static boolean isDigit(char character) {
+            return character >= '0' && character <= '9';
         }
 
-        private boolean isLetter(int i) {
-            return i < length && text[i] >= 'a' && text[i] <= 'z';
+        private static boolean isLetter(char character) {
+            return character >= 'a' && character <= 'z';
         }
 
         private static int withLetter(int key, char letter) {
@@ -913,7 +917,7 @@ public final class DotConsole {
 
         private static int quotient(int x, int y) {
             if (y == 0) {
-                return x >= 0 ? Integer.MAX_VALUE : Integer.MIN_VALUE;
+                return x >= 0 ? GREATEST : LEAST;
             }
             return (int) ((long) x * ONE / y);
         }

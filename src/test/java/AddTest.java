@@ -11,6 +11,7 @@ public final class AddTest {
         forgetsNamesOfLinesNotAdded(check);
         refusesWhenSealed(check);
         takesDeepBrackets(check);
+        takesManyTexts(check);
         check.finish();
     }
 
@@ -134,5 +135,17 @@ public final class AddTest {
         check.dueAdd("x=" + "-".repeat(45) + "1", console, DotConsole.FULL);
         check.dueAdd("x=" + "-".repeat(46), console, DotConsole.BAD);
         check.due("place", console.place(), 48);
+    }
+
+    /** Nothing of a text that was not added is left for the next one. */
+    private static void takesManyTexts(Check check) {
+        DotConsole console = new DotConsole();
+        for (int i = 0; i < 40; i++) {
+            check.dueAdd("x=((1<2", console, DotConsole.BAD);
+        }
+        check.dueAdd("x=1)", console, DotConsole.BAD);
+        check.due("place", console.place(), 3);
+        check.dueAdd("x=3<4", console, 1);
+        check.due("nodes", console.nodes(1), 3);
     }
 }

@@ -29,12 +29,26 @@ public final class FaceTest {
         System.out.println(face);
         check.due("the face is as the document's", face.equals(want) ? 1 : 0, 1);
         check.due("final", Modifier.isFinal(DotConsole.class.getModifiers()) ? 1 : 0, 1);
+        namesAreApart(check, DotConsole.class);
         for (Class<?> inside : DotConsole.class.getDeclaredClasses()) {
+            namesAreApart(check, inside);
             int bits = inside.getModifiers();
             check.due(inside + " is static", Modifier.isStatic(bits) ? 1 : 0, 1);
             check.due(inside + " is public", Modifier.isPublic(bits) ? 1 : 0, 0);
         }
         check.finish();
+    }
+
+    /** LANGUAGE.md, rule 1: no method that is not public bears the name of a public one. */
+    private static void namesAreApart(Check check, Class<?> declared) {
+        Set<String> taken = new TreeSet<>();
+        for (Method method : DotConsole.class.getMethods()) {
+            taken.add(method.getName());
+        }
+        for (Method method : declared.getDeclaredMethods()) {
+            boolean clash = !Modifier.isPublic(method.getModifiers()) && taken.contains(method.getName());
+            check.due(declared + " takes the name " + method.getName(), clash ? 1 : 0, 0);
+        }
     }
 
     private static void note(Set<String> face, int modifiers, String member) {

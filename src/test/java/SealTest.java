@@ -12,6 +12,7 @@ public final class SealTest {
         looksAtWhatIsNotEnded(check);
         looksAtTheDepth(check);
         changesNothingIfWrong(check);
+        takesFullPrograms(check);
         check.finish();
     }
 
@@ -68,5 +69,18 @@ public final class SealTest {
         check.due("y", console.value(1), 2 * Check.ONE);
         check.due("seal again", console.seal(), DotConsole.REFUSED);
         check.due("still sealed", console.count(5), 1);
+    }
+
+    private static void takesFullPrograms(Check check) {
+        String[] lines = new String[28];
+        for (int i = 0; i < 28; i += 2) {
+            lines[i] = "if 1";
+            lines[i + 1] = "end";
+        }
+        dueSeal(check, 0, lines);
+        lines[27] = "if 1";
+        dueSeal(check, 29, lines);
+        lines[26] = "end";
+        dueSeal(check, 27, lines);
     }
 }
