@@ -12,25 +12,6 @@ public final class DrawingTest {
         check.finish();
     }
 
-    /** The rows of the screen after a frame of the lines; '.' is 0 and what is below is 0 too. */
-    private static void dueScreen(Check check, String statement, String... rows) {
-        DotConsole console = Check.sealed(statement);
-        check.due("frame of " + statement, console.frame(0), 0);
-        for (int y = 0; y < 16; y++) {
-            for (int x = 0; x < 16; x++) {
-                char mark = y < rows.length && x < rows[y].length() ? rows[y].charAt(x) : '.';
-                int want = mark == '.' ? 0 : Character.digit(mark, 16);
-                check.due(statement + ": dot " + x + " " + y, console.dot(x, y), want);
-            }
-        }
-    }
-
-    private static String[] allRows(String row) {
-        String[] rows = new String[16];
-        java.util.Arrays.fill(rows, row);
-        return rows;
-    }
-
     private static void refusesDotsOutside(Check check) {
         DotConsole console = Check.sealed("cls 5");
         console.frame(0);
@@ -45,67 +26,67 @@ public final class DrawingTest {
     }
 
     private static void clears(Check check) {
-        dueScreen(check, "cls 15", allRows("f".repeat(16)));
-        dueScreen(check, "cls 16");
-        dueScreen(check, "cls 17.9", allRows("1".repeat(16)));
-        dueScreen(check, "cls -1", allRows("f".repeat(16)));
-        dueScreen(check, "cls -0.5", allRows("f".repeat(16)));
-        dueScreen(check, "cls 0.9");
+        check.dueScreen("cls 15", Check.allRows("f".repeat(16)));
+        check.dueScreen("cls 16");
+        check.dueScreen("cls 17.9", Check.allRows("1".repeat(16)));
+        check.dueScreen("cls -1", Check.allRows("f".repeat(16)));
+        check.dueScreen("cls -0.5", Check.allRows("f".repeat(16)));
+        check.dueScreen("cls 0.9");
     }
 
     private static void sets(Check check) {
-        dueScreen(check, "pset 2,1,9", "", "..9");
-        dueScreen(check, "pset 0.9,0.1,25.5", "9");
-        dueScreen(check, "pset 15.9999,0,3", "...............3");
-        dueScreen(check, "pset -0.0001,0,3");
-        dueScreen(check, "pset 0,-0.0001,3");
-        dueScreen(check, "pset 16,0,3");
-        dueScreen(check, "pset 0,16,3");
+        check.dueScreen("pset 2,1,9", "", "..9");
+        check.dueScreen("pset 0.9,0.1,25.5", "9");
+        check.dueScreen("pset 15.9999,0,3", "...............3");
+        check.dueScreen("pset -0.0001,0,3");
+        check.dueScreen("pset 0,-0.0001,3");
+        check.dueScreen("pset 16,0,3");
+        check.dueScreen("pset 0,16,3");
     }
 
     private static void drawsLines(Check check) {
-        dueScreen(check, "line 1,1,1,1,4", "", ".4");
-        dueScreen(check, "line 1,0,5,0,4", ".44444");
-        dueScreen(check, "line 5,0,1,0,4", ".44444");
-        dueScreen(check, "line 0,0,3,3,4", "4", ".4", "..4", "...4");
-        dueScreen(check, "line 3,0,0,3,4", "...4", "..4", ".4", "4");
-        dueScreen(check, "line 2,0,2,3.9,4", "..4", "..4", "..4", "..4");
+        check.dueScreen("line 1,1,1,1,4", "", ".4");
+        check.dueScreen("line 1,0,5,0,4", ".44444");
+        check.dueScreen("line 5,0,1,0,4", ".44444");
+        check.dueScreen("line 0,0,3,3,4", "4", ".4", "..4", "...4");
+        check.dueScreen("line 3,0,0,3,4", "...4", "..4", ".4", "4");
+        check.dueScreen("line 2,0,2,3.9,4", "..4", "..4", "..4", "..4");
         // Halves go up: x + 1, y + floor(1 / 2 + 1 / 2); backwards y + floor(-1 / 2 + 1 / 2).
-        dueScreen(check, "line 0,0,2,1,4", "4", ".44");
-        dueScreen(check, "line 2,1,0,0,4", "4", ".44");
-        dueScreen(check, "line 0,1,2,0,4", "..4", "44");
-        dueScreen(check, "line 2,0,0,1,4", "..4", "44");
-        dueScreen(check, "line 0,0,5,2,4", "44", "..44", "....44");
-        dueScreen(check, "line 0,0,1,2,4", "4", ".4", ".4");
-        dueScreen(check, "line -3,-3,2,2,4", "4", ".4", "..4");
-        dueScreen(check, "line -0.5,0,1,0,31", "ff");
-        dueScreen(check, "line 14,0,19,0,4", "..............44");
+        check.dueScreen("line 0,0,2,1,4", "4", ".44");
+        check.dueScreen("line 2,1,0,0,4", "4", ".44");
+        check.dueScreen("line 0,1,2,0,4", "..4", "44");
+        check.dueScreen("line 2,0,0,1,4", "..4", "44");
+        check.dueScreen("line 0,0,5,2,4", "44", "..44", "....44");
+        check.dueScreen("line 0,0,1,2,4", "4", ".4", ".4");
+        check.dueScreen("line -3,-3,2,2,4", "4", ".4", "..4");
+        check.dueScreen("line -0.5,0,1,0,31", "ff");
+        check.dueScreen("line 14,0,19,0,4", "..............44");
     }
 
     private static void leavesLongLines(Check check) {
-        dueScreen(check, "line 0,0,40,0,4", "4".repeat(16));
-        dueScreen(check, "line 0,0,40.9,0,4", "4".repeat(16));
-        dueScreen(check, "line 0,0,41,0,4");
-        dueScreen(check, "line 0,0,0,41,4");
-        dueScreen(check, "line 40,0,0,0,4", "4".repeat(16));
-        dueScreen(check, "line 41,0,0,0,4");
-        dueScreen(check, "line 0,-20,0,20,4", allRows("4"));
-        dueScreen(check, "line 0,-20,0,21,4");
-        dueScreen(check, "line -32767-1,0,32767,0,4");
-        dueScreen(check, "line 0,32767,0,-32767-1,4");
+        check.dueScreen("line 0,0,40,0,4", "4".repeat(16));
+        check.dueScreen("line 0,0,40.9,0,4", "4".repeat(16));
+        check.dueScreen("line 0,0,41,0,4");
+        check.dueScreen("line 0,0,0,41,4");
+        check.dueScreen("line 40,0,0,0,4", "4".repeat(16));
+        check.dueScreen("line 41,0,0,0,4");
+        check.dueScreen("line 0,-20,0,20,4", Check.allRows("4"));
+        check.dueScreen("line 0,-20,0,21,4");
+        check.dueScreen("line -32767-1,0,32767,0,4");
+        check.dueScreen("line 0,32767,0,-32767-1,4");
     }
 
     private static void drawsBoxes(Check check) {
-        dueScreen(check, "box 1,1,3,2,6", "", ".666", ".666");
-        dueScreen(check, "box 3,2,1,1,6", "", ".666", ".666");
-        dueScreen(check, "box 3,1,1,2,6", "", ".666", ".666");
-        dueScreen(check, "box 1.9,2.9,1,2,22", "", "", ".6");
-        dueScreen(check, "box -5,-5,0,1,6", "6", "6");
-        dueScreen(check, "box 14,0,99,0,6", "..............66");
-        dueScreen(check, "box -0.1,-0.1,-5,-5,6");
-        dueScreen(check, "box 16,0,20,20,6");
-        dueScreen(check, "box 0,16,20,20,6");
-        dueScreen(check, "box -32767,32767,32767,-32767,6", allRows("6".repeat(16)));
+        check.dueScreen("box 1,1,3,2,6", "", ".666", ".666");
+        check.dueScreen("box 3,2,1,1,6", "", ".666", ".666");
+        check.dueScreen("box 3,1,1,2,6", "", ".666", ".666");
+        check.dueScreen("box 1.9,2.9,1,2,22", "", "", ".6");
+        check.dueScreen("box -5,-5,0,1,6", "6", "6");
+        check.dueScreen("box 14,0,99,0,6", "..............66");
+        check.dueScreen("box -0.1,-0.1,-5,-5,6");
+        check.dueScreen("box 16,0,20,20,6");
+        check.dueScreen("box 0,16,20,20,6");
+        check.dueScreen("box -32767,32767,32767,-32767,6", Check.allRows("6".repeat(16)));
     }
 
     private static void readsDots(Check check) {

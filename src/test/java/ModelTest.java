@@ -202,7 +202,9 @@ public final class ModelTest {
             buttons = 5;
         }
         due("frame " + buttons, console.frame(buttons), model.frame(buttons));
-        due("steps", console.count(4), model.count(4));
+        if (hasRoom(1)) {
+            due("steps", console.count(4), model.count(4));
+        }
         for (int k = 0; k < 12 && hasRoom(1) && random.nextInt(12) != 0; k++) {
             due("value " + k, console.value(k), model.value(k));
         }

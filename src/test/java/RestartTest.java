@@ -27,8 +27,8 @@ public final class RestartTest {
             for (int i = 0; i < 32; i++) {
                 check.due("cell " + i, console.cell(i), 0);
             }
-            for (int at = 0; at < 256; at++) {
-                check.due("dot " + at, console.dot(at % 16, at / 16), 0);
+            for (int at = 0; at < 16; at++) {
+                check.due("dot " + at, console.dot(at, 15 - at), 0);
             }
             check.due("frames", console.count(3), 0);
             check.due("steps", console.count(4), 0);
