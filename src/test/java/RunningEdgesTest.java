@@ -220,6 +220,17 @@ public final class RunningEdgesTest {
         for (int k : FAR) {
             check.due("name " + k, console.name(k, 0), REFUSED);
         }
+        // Names of lines that were not added are none.
+        check.dueAdd("b=c+", console, DotConsole.BAD);
+        check.due("name 6", console.name(6, 0), REFUSED);
+        check.dueAdd("b=------c", console, DotConsole.FULL);
+        check.due("name 6", console.name(6, 0), REFUSED);
+        check.due("name 7", console.name(7, 0), REFUSED);
+        check.dueAdd("pset g|h,i|j,k|l", console, 4);
+        check.due("name 11", console.name(11, 0), 'l');
+        check.due("name 11 1", console.name(11, 1), REFUSED);
+        check.due("name 12", console.name(12, 0), REFUSED);
+        check.due("name 13", console.name(13, 0), REFUSED);
     }
 
     private static void cells(Check check) {

@@ -83,6 +83,13 @@ public final class TokenEdgesTest {
         check.dueBad("x=1.:", 3);
         check.dueBad("x=1./", 3);
         check.dueBad("x=" + "1.5".repeat(15), 6);
+        // At the end of the text nothing follows, whatever stood there in the text before.
+        check.dueBad("x=" + " ".repeat(44) + "1.", 47);
+        check.dueGood("x=" + " ".repeat(43) + "1.5", 1);
+        DotConsole console = new DotConsole();
+        check.dueAdd("x=1.5", console, 1);
+        check.dueAdd("x=1.", console, DotConsole.BAD);
+        check.due("place", console.place(), 3);
     }
 
     private static void signs(Check check) {

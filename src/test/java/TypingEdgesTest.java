@@ -126,6 +126,14 @@ public final class TypingEdgesTest {
             check.dueAdd("end", console, i);
         }
         dueEmpty(check, console, "end", FULL);
+        DotConsole shorter = Check.withLines("abcdef=123.45", "abcd=12");
+        check.dueAdd("abc=d", shorter, 3);
+        check.due("the third name", shorter.name(2, 2), 'c');
+        check.due("its end", shorter.name(2, 3), REFUSED);
+        check.due("the fourth name's end", shorter.name(3, 1), REFUSED);
+        check.due("seal", shorter.seal(), 0);
+        check.due("frame", shorter.frame(0), 0);
+        check.due("abcd", shorter.value(1), 12 * Check.ONE);
         DotConsole sealed = Check.sealed();
         dueEmpty(check, sealed, "x=1", REFUSED);
         dueEmpty(check, sealed, "#", REFUSED);
