@@ -56,7 +56,9 @@ public final class ModelTest {
             case 1 -> addWholeProgram(1);
             default -> addWholeProgram(0);
         }
-        due("seal", console.seal(), model.seal());
+        if (hasRoom(1)) {
+            due("seal", console.seal(), model.seal());
+        }
         while (hasRoom(1)) {
             callSomething();
         }
